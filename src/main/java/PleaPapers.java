@@ -607,7 +607,7 @@ public final class PleaPapers {
 
         /** Only the first fault counts: reading goes forward, so it is the one at the first byte. */
         private void fail(int number) {
-            if (isSound()) {
+            if (faultNumber == 0) {
                 faultNumber = number;
                 faultPlace = start;
             }
@@ -1167,7 +1167,7 @@ public final class PleaPapers {
 
         /** Of a side's proof of a fact: 1 for it, 0 against it, NONE if it counts for nothing. */
         private int bearing(int side, int f) {
-            if (!isFact(f) || !has(open, f)) {
+            if (f < 0 || f >= FACTS || stand[f] == FREE || stand[f] == ADMITTED) {
                 return NONE;
             }
             if (sayer[f] == side) {
@@ -1224,7 +1224,10 @@ public final class PleaPapers {
                 f++;
             }
             if (f >= FACTS) {
-                scale.tally(claims, facts.soBy(shown), weight);
+                int so = facts.soBy(shown);
+                for (int c = 0; c < claims.number && c < CLAIMS; c++) {
+                    scale.chances[c] += claims.isOwed(c, so) ? weight : 0;
+                }
                 return;
             }
             int with = weight * scale.shares[f] / THOUSAND;
@@ -1234,14 +1237,6 @@ public final class PleaPapers {
             }
             if (without > 0) {
                 spread(scale, claims, facts, f + 1, shown, without);
-            }
-        }
-
-        private void tally(Claims claims, int so, int weight) {
-            for (int c = 0; c < claims.number && c < CLAIMS; c++) {
-                if (claims.isOwed(c, so)) {
-                    chances[c] += weight;
-                }
             }
         }
     }
