@@ -20,7 +20,10 @@ public final class PleaPapers {
     /** What is added to a fault's number, below 0, in an answer. */
     private static final int FAULT_BASE = -10;
 
-    private static final int MISPLACED = 1, BAD_NUMBER = 2, TOO_DEEP = 3, TOLD_CLAUSE = 3, TOLD_FACT = 4, BARRED_FACT = 5;
+    private static final int MISPLACED = 1, BAD_NUMBER = 2;
+
+    /** The faults that only claims have, and those that only papers have. */
+    private static final int TOO_DEEP = 3, TOLD_CLAUSE = 3, TOLD_FACT = 4, BARRED_FACT = 5;
 
     private final Text text = new Text();
     private final ClaimReader claimReader = new ClaimReader();
