@@ -36,7 +36,6 @@ public final class PleaPapers {
     private final boolean[] kept = new boolean[IMAGES];
 
     public PleaPapers() {
-        otherwise.replay(suit.papers, NONE);
         facts.replay(suit.papers, NONE);
     }
 
@@ -972,7 +971,6 @@ public final class PleaPapers {
             factOf[number] = f;
             odds[number] = odd;
             costs[number] = cost;
-            brought &= ~(1 << number);
             number++;
             return number - 1;
         }

@@ -39,6 +39,7 @@ public final class PromisesTest {
         seed();
         trial();
         keepAndGoBack();
+        imagesKeepAll();
         refusalsChangeNothing();
         System.out.println(checks - wrong + " checks as due, " + wrong + " not");
         if (wrong != 0) System.exit(1);
@@ -108,6 +109,10 @@ public final class PromisesTest {
         is("count(4)", x.count(4), 12);
         is("fault()", x.fault(), NONE);
         is("open()", x.open(), 0);
+        for (int f = 0; f < 12; f++) {
+            is("fact(" + f + ", 0)", x.fact(f, 0), 0);
+            for (int what = 1; what < 5; what++) is("fact(" + f + ", " + what + ")", x.fact(f, what), NONE);
+        }
         is("worth(0)", x.worth(0), 0);
         is("trial()", x.trial(), 0);
         is("seed(5)", x.seed(5), 0);
@@ -217,6 +222,12 @@ public final class PromisesTest {
         isClaimFault("", 1, 0);
         isClaimFault("   ", 1, 3);
         isClaimFault("pays 5 if 1", 1, 0);
+        isClaimFault("payz 5 if 1", 1, 0);
+        isClaimFault("paya 5 if 1", 1, 0);
+        isClaimFault("pay` 5 if 1", 1, 3);
+        isClaimFault("pay{ 5 if 1", 1, 3);
+        isClaimFault("pay 5/ if 1", 1, 5);
+        isClaimFault("pay 5: if 1", 1, 5);
         isClaimFault("Pay 5 if 1", 1, 0);
         isClaimFault("5 if 1", 1, 0);
         isClaimFault("pay", 1, 3);
@@ -754,6 +765,20 @@ public final class PromisesTest {
         is("chance(2)", x.chance(2), 999996);
         is("chance(-1)", x.chance(-1), UNKNOWN);
         is("chance(3)", x.chance(3), UNKNOWN);
+        PleaPapers y = new PleaPapers();
+        claim(y, "pay 1 if 0 and 1 and 2");
+        claim(y, "pay 1 if 0 and 1 and not 2");
+        paper(y, 0, "say 0,1,2;");
+        for (int k = 0; k < 3; k++) {
+            y.proof(0, k, k < 2 ? 1 : 999, 0);
+            y.bring(k, true);
+        }
+        // 1000000 * 1 / 1000 = 1000, * 1 / 1000 = 1, * 999 / 1000 = 0
+        is("chance(0), cut to nothing", y.chance(0), 0);
+        is("chance(1), cut to nothing", y.chance(1), 0);
+        y.proof(0, 2, 1000, 0);
+        y.bring(3, true);
+        is("chance(0), a last one", y.chance(0), 1);
     }
 
     private static void worth() {
@@ -827,6 +852,14 @@ public final class PromisesTest {
         y.proof(0, 7, 500, 0);
         is("of like ones the least set", y.best(0, 9, 0), 1);
         is("of like ones the least set", y.best(0, 10, 0), 3);
+        PleaPapers z = threeFacts(20, 15, 10);
+        z.proof(0, 0, 500, 7);
+        z.proof(0, 1, 600, 6);
+        z.proof(0, 2, 800, 5);
+        // each alone leaves 3000
+        is("of like ones the cheapest", z.best(0, 7, 0), 4);
+        is("of like ones the cheapest", z.best(0, 7, 1), 3000);
+        is("of like ones the cheapest", z.best(0, 7, 2), 5);
     }
 
     private static void bestOfFirstEight() {
@@ -871,6 +904,18 @@ public final class PromisesTest {
         is("whatever it costs, of like ones the least set", y.game(1, 0), 2);
         y.bring(0, false);
         is("an answer of like ones: the least set", y.game(0, 1), 2);
+        PleaPapers z = threeFacts(100, 50, 20);
+        z.proof(0, 0, 1000, 0);
+        z.proof(1, 0, 100, 10);
+        z.proof(1, 0, 200, 19);
+        z.proof(1, 0, 150, 14);
+        z.proof(1, 0, 500, 20);
+        z.proof(1, 0, 999, 0);
+        z.bring(0, true);
+        is("the greatest of four", z.game(1, 0), 16);
+        z.bring(4, true);
+        is("the next four", z.game(1, 0), 32);
+        is("the next four", z.game(0, 1), 32);
     }
 
     private static void without() {
@@ -941,6 +986,7 @@ public final class PromisesTest {
             is("trial()", x.trial(), sum);
         }
         is("seed(0)", x.seed(0), (int) state);
+        isShownBelow();
         PleaPapers y = new PleaPapers();
         paper(y, 0, "say 3;");
         is("trial() without a claim", y.trial(), 0);
@@ -950,6 +996,69 @@ public final class PromisesTest {
         z.strike();
         is("trial() without an open fact", z.trial(), 0);
         is("no draw", z.seed(0), 0);
+    }
+
+    /** As likely as the draw it is not shown, with a thousandth more it is. */
+    private static void isShownBelow() {
+        long first = (838383L * 1103515245L + 12345L) % (1L << 31) / 65536 % 1000;
+        for (int more = 0; more < 2; more++) {
+            PleaPapers x = threeFacts(100, 50, 20);
+            x.proof(0, 0, (int) first + more, 0);
+            x.bring(0, true);
+            x.seed(838383);
+            is("trial() at " + more, x.trial(), 100 * more);
+        }
+    }
+
+    private static void imagesKeepAll() {
+        promise = "Promise 29, all that is kept";
+        PleaPapers x = new PleaPapers();
+        x.keep(0);
+        claim(x, "pay 10 if 0 and not 3");
+        claim(x, "owe 4 if 1");
+        paper(x, 3, "say 0,1;");
+        paper(x, 40, "deny 0;");
+        paper(x, 41, "say 3;");
+        x.proof(1, 4, 5, 6);
+        x.proof(0, 3, 900, 7);
+        x.bring(1, true);
+        x.keep(1);
+        int[] before = all(x);
+        is("goBack(0)", x.goBack(0), 1);
+        is("count(0)", x.count(0), 0);
+        is("count(4)", x.count(4), 12);
+        claim(x, "owe 99 if 5 or 6");
+        claim(x, "pay 98 if 7 or 8");
+        paper(x, 0, "say 5,not 6;");
+        paper(x, 1, "deny 5,6;say 7;");
+        paper(x, 100, "say 8;take 5;");
+        for (int k = 0; k < 3; k++) {
+            x.proof(0, 5, 300, 1);
+            x.bring(k, true);
+        }
+        is("goBack(1)", x.goBack(1), 1);
+        int[] behind = all(x);
+        for (int i = 0; i < before.length; i++) is("what was kept, " + i, behind[i], before[i]);
+    }
+
+    /** Answers to questions about all that is kept. */
+    private static int[] all(PleaPapers x) {
+        java.util.List<Integer> answers = new java.util.ArrayList<>();
+        for (int what = 0; what < 9; what++) answers.add(x.count(what));
+        for (int c = 0; c < 3; c++) {
+            for (int what = 0; what < 3; what++) answers.add(x.told(c, what));
+            answers.add(x.chance(c));
+            answers.add(x.turns(c));
+        }
+        for (int p = 0; p < 4; p++) {
+            for (int what = 0; what < 4; what++) answers.add(x.heard(p, what));
+        }
+        for (int k = 0; k < 4; k++) {
+            for (int what = 0; what < 6; what++) answers.add(x.proved(k, what));
+        }
+        answers.add(x.open());
+        answers.add(x.worth(0));
+        return answers.stream().mapToInt(a -> a).toArray();
     }
 
     private static void keepAndGoBack() {
