@@ -250,7 +250,7 @@ public final class PleaPapers {
         }
         Proofs proofs = suit.proofs;
         int was = has(proofs.brought, k) ? 1 : 0;
-        proofs.brought = is ? proofs.brought | 1 << k : proofs.brought & ~(1 << k);
+        proofs.brought = is ? proofs.brought | (1 << k) : proofs.brought & ~(1 << k);
         return was;
     }
 
@@ -408,7 +408,7 @@ public final class PleaPapers {
     // ---- sets
 
     private static boolean has(int set, int k) {
-        return (set >> k & 1) != 0;
+        return ((set >> k) & 1) != 0;
     }
 
     private static int setsWithin(int whole) {
@@ -447,7 +447,7 @@ public final class PleaPapers {
         int others = facts.open & ~(1 << f);
         int ways = setsWithin(others);
         for (int i = 0, shown = 0; i < ways; i++, shown = nextSet(shown, others)) {
-            boolean with = suit.claims.isOwed(c, facts.soBy(shown | 1 << f));
+            boolean with = suit.claims.isOwed(c, facts.soBy(shown | (1 << f)));
             if (with != suit.claims.isOwed(c, facts.soBy(shown))) {
                 return true;
             }
@@ -501,7 +501,7 @@ public final class PleaPapers {
                 continue;
             }
             int gain = gain(side, set, 0);
-            if (gain > bestGain || gain == bestGain && cost < bestCost) {
+            if (gain > bestGain || (gain == bestGain && cost < bestCost)) {
                 bestSet = set;
                 bestCost = cost;
                 bestGain = gain;
@@ -869,7 +869,7 @@ public final class PleaPapers {
 
     /** The claims, each with all ways in which it is owed. */
     private static final class Claims {
-        private static final int WORDS = 1 << FACTS - 6;
+        private static final int WORDS = 1 << (FACTS - 6);
 
         private int number;
         private final int[] coins = new int[CLAIMS];
@@ -889,7 +889,7 @@ public final class PleaPapers {
 
         /** Whether a claim is owed if just the facts of the set are so. */
         private boolean isOwed(int c, int so) {
-            return (tables[c][so >> 6 & WORDS - 1] >>> (so & 63) & 1L) != 0;
+            return ((tables[c][(so >> 6) & (WORDS - 1)] >>> (so & 63)) & 1L) != 0;
         }
 
         private int coinsOwed(int so) {
@@ -1017,7 +1017,7 @@ public final class PleaPapers {
         private int seedNumber;
 
         private int draw(int n) {
-            seedNumber = (int) (seedNumber * 1103515245L + 12345L & Integer.MAX_VALUE);
+            seedNumber = (int) ((seedNumber * 1103515245L + 12345L) & Integer.MAX_VALUE);
             return n < 1 ? 0 : seedNumber / 65536 % n;
         }
 
@@ -1143,7 +1143,7 @@ public final class PleaPapers {
 
         /** The facts that are so, if these open ones are shown. */
         private int soBy(int shown) {
-            return admittedAsSo | shown ^ openAsNot;
+            return admittedAsSo | (shown ^ openAsNot);
         }
 
         private int howMany(int what) {
@@ -1234,7 +1234,7 @@ public final class PleaPapers {
             int with = weight * scale.shares[f] / THOUSAND;
             int without = weight * (THOUSAND - scale.shares[f]) / THOUSAND;
             if (with > 0) {
-                spread(scale, claims, facts, f + 1, shown | 1 << f, with);
+                spread(scale, claims, facts, f + 1, shown | (1 << f), with);
             }
             if (without > 0) {
                 spread(scale, claims, facts, f + 1, shown, without);
