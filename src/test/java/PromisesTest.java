@@ -1,10 +1,5 @@
 /** The promises of the document, one by one: ordinary inputs, edges, wrong inputs. */
-public final class PromisesTest {
-    private static final int NONE = -1, UNKNOWN = -100000001, OUTSIDE = -100000002, NOT = -100000003, FULL = -100000004;
-    private static int wrong = 0;
-    private static int checks = 0;
-    private static String promise = "";
-
+public final class PromisesTest extends Checks {
     public static void main(String[] args) {
         newObject();
         feed();
@@ -41,66 +36,13 @@ public final class PromisesTest {
         keepAndGoBack();
         imagesKeepAll();
         refusalsChangeNothing();
-        System.out.println(checks - wrong + " checks as due, " + wrong + " not");
-        if (wrong != 0) System.exit(1);
-    }
-
-    private static void is(String call, int got, int want) {
-        checks++;
-        if (got != want) {
-            wrong++;
-            System.out.println(promise + ": " + call + " answered " + got + ", due is " + want);
-        }
-    }
-
-    // ---- texts for short
-
-    private static void tell(PleaPapers x, String text) {
-        for (int i = 0; i < text.length(); i++) x.feed(1, text.charAt(i));
-    }
-
-    private static int claim(PleaPapers x, String text) {
-        tell(x, text);
-        return x.claim();
-    }
-
-    private static int paper(PleaPapers x, int day, String text) {
-        tell(x, text);
-        return x.paper(day);
-    }
-
-    private static void isClaimFault(String text, int number, int place) {
-        PleaPapers x = new PleaPapers();
-        is("claim of '" + text + "'", claim(x, text), -10 - number);
-        is("fault of '" + text + "'", x.fault(), place);
-        is("claims behind '" + text + "'", x.count(0), 0);
-        is("bytes behind '" + text + "'", x.count(3), 0);
-    }
-
-    private static void isClaim(String text, int coins, int facts) {
-        PleaPapers x = new PleaPapers();
-        is("claim of '" + text + "'", claim(x, text), 0);
-        is("fault of '" + text + "'", x.fault(), NONE);
-        is("coins of '" + text + "'", x.told(0, 0), coins);
-        is("facts of '" + text + "'", x.told(0, 1), facts);
-    }
-
-    private static void isPaperFault(PleaPapers x, int day, String text, int number, int place) {
-        int papers = x.count(1);
-        is("paper of '" + text + "'", paper(x, day, text), -10 - number);
-        is("fault of '" + text + "'", x.fault(), place);
-        is("papers behind '" + text + "'", x.count(1), papers);
-        is("bytes behind '" + text + "'", x.count(3), 0);
-    }
-
-    private static String times(String part, int n) {
-        return part.repeat(n);
+        end();
     }
 
     // ---- promises
 
     private static void newObject() {
-        promise = "Promise 1";
+        about("Promise 1");
         PleaPapers x = new PleaPapers();
         is("count(0)", x.count(0), 0);
         is("count(1)", x.count(1), 0);
@@ -124,7 +66,7 @@ public final class PromisesTest {
     }
 
     private static void feed() {
-        promise = "Promise 2";
+        about("Promise 2");
         PleaPapers x = new PleaPapers();
         is("feed(0, 0)", x.feed(0, 0), OUTSIDE);
         is("feed(9, 0)", x.feed(9, 0), OUTSIDE);
@@ -163,7 +105,7 @@ public final class PromisesTest {
     }
 
     private static void claim() {
-        promise = "Promise 3";
+        about("Promise 3");
         isClaim("pay 100 if 0 and 1 and not 2", 100, 7);
         isClaim("owe 40 if 3 or (4 and not 0)", -40, 25);
         isClaim("pay999if11", 999, 2048);
@@ -198,7 +140,7 @@ public final class PromisesTest {
     }
 
     private static void isMeant() {
-        promise = "Terms 1";
+        about("Terms 1");
         for (int set = 0; set < 8; set++) {
             boolean a = (set & 1) != 0;
             boolean b = (set & 2) != 0;
@@ -218,7 +160,7 @@ public final class PromisesTest {
     }
 
     private static void claimFaults() {
-        promise = "Promise 3, faults";
+        about("Promise 3, faults");
         isClaimFault("", 1, 0);
         isClaimFault("   ", 1, 3);
         isClaimFault("pays 5 if 1", 1, 0);
@@ -266,7 +208,7 @@ public final class PromisesTest {
     }
 
     private static void claimDepth() {
-        promise = "Promise 3, depth";
+        about("Promise 3, depth");
         isClaim("pay 5 if " + times("not ", 8) + "1", 5, 2);
         isClaimFault("pay 5 if " + times("not ", 9) + "1", 3, 9 + 32);
         isClaim("pay 5 if " + times("(", 8) + "1" + times(")", 8), 5, 2);
@@ -284,7 +226,7 @@ public final class PromisesTest {
     }
 
     private static void paper() {
-        promise = "Promise 4";
+        about("Promise 4");
         PleaPapers x = new PleaPapers();
         is("paper(-1)", paper(x, -1, "say 0;"), OUTSIDE);
         is("paper(1000)", x.paper(1000), OUTSIDE);
@@ -311,7 +253,7 @@ public final class PromisesTest {
     }
 
     private static void paperFaults() {
-        promise = "Promise 4, faults";
+        about("Promise 4, faults");
         PleaPapers x = new PleaPapers();
         isPaperFault(x, 0, "x", 1, 0);
         isPaperFault(x, 0, "says 0;", 1, 0);
@@ -362,7 +304,7 @@ public final class PromisesTest {
     }
 
     private static void fault() {
-        promise = "Promise 5";
+        about("Promise 5");
         PleaPapers x = new PleaPapers();
         is("fault() at first", x.fault(), NONE);
         claim(x, "pay 5 of 1");
@@ -390,7 +332,7 @@ public final class PromisesTest {
     }
 
     private static void due() {
-        promise = "Promise 6";
+        about("Promise 6");
         PleaPapers x = new PleaPapers();
         is("due(0)", x.due(0), OUTSIDE);
         is("due(100)", x.due(100), OUTSIDE);
@@ -401,7 +343,7 @@ public final class PromisesTest {
     }
 
     private static void late() {
-        promise = "Promise 6, late";
+        about("Promise 6, late");
         PleaPapers x = new PleaPapers();
         paper(x, 900, "say 0;");
         is("the first one is not late", x.heard(0, 1), 0);
@@ -426,19 +368,8 @@ public final class PromisesTest {
         is("count(4)", x.count(4), 10);
     }
 
-    private static PleaPapers sample() {
-        PleaPapers x = new PleaPapers();
-        claim(x, "pay 100 if 0 and 1 and not 2");
-        claim(x, "owe 40 if 3 or (4 and not 0)");
-        claim(x, "pay 7 if 5");
-        paper(x, 0, "say 0,1,not 6,5;");
-        paper(x, 10, "deny 0;doubt 1;say 2,3;");
-        paper(x, 25, "deny 2;say 4;");
-        return x;
-    }
-
     private static void count() {
-        promise = "Promise 7";
+        about("Promise 7");
         PleaPapers x = sample();
         x.proof(0, 0, 1, 1);
         x.feed(3, 0);
@@ -449,7 +380,7 @@ public final class PromisesTest {
     }
 
     private static void fact() {
-        promise = "Promise 8";
+        about("Promise 8");
         PleaPapers x = sample();
         int[][] due = {{3, 1, 0, 0, 1}, {4, 1, 0, 0, 1}, {3, 1, 1, 1, 2}, {2, 1, 1, 1, 2}, {1, 1, 0, 2, -1},
             {2, 1, 0, 0, 1}, {2, 0, 0, 0, 1}, {0, -1, -1, -1, -1}};
@@ -469,7 +400,7 @@ public final class PromisesTest {
     }
 
     private static void told() {
-        promise = "Promise 9";
+        about("Promise 9");
         PleaPapers x = sample();
         is("told(0, 0)", x.told(0, 0), 100);
         is("told(1, 0)", x.told(1, 0), -40);
@@ -492,7 +423,7 @@ public final class PromisesTest {
     }
 
     private static void heard() {
-        promise = "Promise 10";
+        about("Promise 10");
         PleaPapers x = sample();
         is("heard(0, 0)", x.heard(0, 0), 0);
         is("heard(2, 0)", x.heard(2, 0), 25);
@@ -511,7 +442,7 @@ public final class PromisesTest {
     }
 
     private static void strike() {
-        promise = "Promise 11";
+        about("Promise 11");
         PleaPapers x = sample();
         x.proof(0, 0, 1, 1);
         x.due(7);
@@ -540,7 +471,7 @@ public final class PromisesTest {
     }
 
     private static void open() {
-        promise = "Promise 12";
+        about("Promise 12");
         PleaPapers x = new PleaPapers();
         paper(x, 0, "say 0,1,not 2,11;");
         is("open() of those that await", x.open(), 1 + 2 + 4 + 2048);
@@ -551,7 +482,7 @@ public final class PromisesTest {
     }
 
     private static void holds() {
-        promise = "Promise 13";
+        about("Promise 13");
         PleaPapers x = sample();
         is("holds(0, 3)", x.holds(0, 3), 1);
         is("holds(0, 7)", x.holds(0, 7), 0);
@@ -576,7 +507,7 @@ public final class PromisesTest {
     }
 
     private static void turns() {
-        promise = "Promise 14";
+        about("Promise 14");
         PleaPapers x = sample();
         is("turns(0)", x.turns(0), 7);
         is("turns(1)", x.turns(1), 0);
@@ -590,7 +521,7 @@ public final class PromisesTest {
     }
 
     private static void enough() {
-        promise = "Promise 15";
+        about("Promise 15");
         PleaPapers x = sample();
         is("enough(0)", x.enough(0), NONE);
         is("enough(1)", x.enough(1), 0);
@@ -615,7 +546,7 @@ public final class PromisesTest {
     }
 
     private static void silence() {
-        promise = "Promise 16";
+        about("Promise 16");
         PleaPapers x = sample();
         is("silence(2, 1)", x.silence(2, 1), 32);
         is("silence(2, 0)", x.silence(2, 0), NONE);
@@ -644,7 +575,7 @@ public final class PromisesTest {
     }
 
     private static void proof() {
-        promise = "Promise 17";
+        about("Promise 17");
         PleaPapers x = new PleaPapers();
         is("proof(2, 0, 0, 0)", x.proof(2, 0, 0, 0), UNKNOWN);
         is("proof(-1, 0, 0, 0)", x.proof(-1, 0, 0, 0), UNKNOWN);
@@ -662,7 +593,7 @@ public final class PromisesTest {
     }
 
     private static void bring() {
-        promise = "Promise 18";
+        about("Promise 18");
         PleaPapers x = new PleaPapers();
         is("bring(0, true)", x.bring(0, true), UNKNOWN);
         x.proof(0, 0, 0, 0);
@@ -677,7 +608,7 @@ public final class PromisesTest {
     }
 
     private static void proved() {
-        promise = "Promise 19";
+        about("Promise 19");
         PleaPapers x = sample();
         x.proof(1, 3, 999, 98);
         int[] due = {1, 3, 999, 98, 0, NONE};
@@ -705,7 +636,7 @@ public final class PromisesTest {
     }
 
     private static void likely() {
-        promise = "Promise 20";
+        about("Promise 20");
         PleaPapers x = sample();
         is("likely(12)", x.likely(12), UNKNOWN);
         is("likely(-1)", x.likely(-1), UNKNOWN);
@@ -745,7 +676,7 @@ public final class PromisesTest {
     }
 
     private static void chance() {
-        promise = "Promise 21";
+        about("Promise 21");
         PleaPapers x = new PleaPapers();
         is("chance(0)", x.chance(0), UNKNOWN);
         claim(x, "pay 10 if 0 and 1 and 2");
@@ -782,7 +713,7 @@ public final class PromisesTest {
     }
 
     private static void worth() {
-        promise = "Promise 22";
+        about("Promise 22");
         PleaPapers x = sample();
         is("worth(0)", x.worth(0), -33000);
         is("worth(1)", x.worth(1), 33000);
@@ -805,19 +736,8 @@ public final class PromisesTest {
         is("worth(1)", y.worth(1), -2331 + 3199 - 456);
     }
 
-    /** Three facts that side 0 said and side 1 denied, each worth so many coins. */
-    private static PleaPapers threeFacts(int a, int b, int c) {
-        PleaPapers x = new PleaPapers();
-        claim(x, "pay " + a + " if 0");
-        claim(x, "pay " + b + " if 1");
-        claim(x, "pay " + c + " if 2");
-        paper(x, 0, "say 0,1,2;");
-        paper(x, 0, "deny 0,1,2;");
-        return x;
-    }
-
     private static void best() {
-        promise = "Promise 23";
+        about("Promise 23");
         PleaPapers x = threeFacts(100, 50, 20);
         x.proof(0, 0, 500, 30);
         x.proof(0, 1, 500, 10);
@@ -863,7 +783,7 @@ public final class PromisesTest {
     }
 
     private static void bestOfFirstEight() {
-        promise = "Promise 23, the first 8";
+        about("Promise 23, the first 8");
         PleaPapers x = threeFacts(100, 50, 20);
         for (int k = 0; k < 8; k++) x.proof(0, 7, 500, 0);
         x.proof(0, 0, 500, 0);
@@ -879,7 +799,7 @@ public final class PromisesTest {
     }
 
     private static void game() {
-        promise = "Promise 24";
+        about("Promise 24");
         PleaPapers x = threeFacts(100, 50, 20);
         x.proof(0, 0, 500, 30);
         x.proof(0, 1, 500, 10);
@@ -919,7 +839,7 @@ public final class PromisesTest {
     }
 
     private static void without() {
-        promise = "Promise 25";
+        about("Promise 25");
         PleaPapers x = sample();
         is("without(0)", x.without(0), -40000);
         is("without(1)", x.without(1), 107000);
@@ -956,7 +876,7 @@ public final class PromisesTest {
     }
 
     private static void seed() {
-        promise = "Promise 26";
+        about("Promise 26");
         PleaPapers x = new PleaPapers();
         is("seed(greatest)", x.seed(Integer.MAX_VALUE), 0);
         is("seed(-1)", x.seed(-1), OUTSIDE);
@@ -965,7 +885,7 @@ public final class PromisesTest {
     }
 
     private static void trial() {
-        promise = "Promise 27";
+        about("Promise 27");
         PleaPapers x = threeFacts(100, 50, 20);
         claim(x, "owe 7 if not 0");
         x.proof(0, 0, 500, 0);
@@ -1011,7 +931,7 @@ public final class PromisesTest {
     }
 
     private static void imagesKeepAll() {
-        promise = "Promise 29, all that is kept";
+        about("Promise 29, all that is kept");
         PleaPapers x = new PleaPapers();
         x.keep(0);
         claim(x, "pay 10 if 0 and not 3");
@@ -1062,7 +982,7 @@ public final class PromisesTest {
     }
 
     private static void keepAndGoBack() {
-        promise = "Promise 28";
+        about("Promise 28");
         PleaPapers x = sample();
         is("keep(2)", x.keep(2), UNKNOWN);
         is("keep(-1)", x.keep(-1), UNKNOWN);
@@ -1070,7 +990,7 @@ public final class PromisesTest {
         x.due(33);
         x.seed(77);
         is("keep(1)", x.keep(1), 1);
-        promise = "Promise 29";
+        about("Promise 29");
         is("goBack(0)", x.goBack(0), NOT);
         is("goBack(2)", x.goBack(2), UNKNOWN);
         is("goBack(-1)", x.goBack(-1), UNKNOWN);
@@ -1112,7 +1032,7 @@ public final class PromisesTest {
     }
 
     private static void refusalsChangeNothing() {
-        promise = "Refusals";
+        about("Refusals");
         PleaPapers x = sample();
         x.seed(5);
         int before = state(x);
