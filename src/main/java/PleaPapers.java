@@ -150,7 +150,7 @@ public final class PleaPapers {
         }
         switch (what) {
             case 0: return suit.papers.days[p];
-            case 1: return suit.papers.late[p] ? 1 : 0;
+            case 1: return has(suit.papers.late, p) ? 1 : 0;
             case 2: return suit.papers.factSet(p);
             case 3: return facts.silent[p];
             default: return OUTSIDE;
@@ -915,8 +915,8 @@ public final class PleaPapers {
     /** The papers: what each does with each fact. */
     private static final class Papers {
         private int number;
+        private int late;
         private final int[] days = new int[PAPERS];
-        private final boolean[] late = new boolean[PAPERS];
         private final int[][] acts = new int[PAPERS][FACTS];
 
         private int lastDay() {
@@ -927,7 +927,8 @@ public final class PleaPapers {
             if (number >= PAPERS) {
                 return FULL;
             }
-            late[number] = number > 0 && day - lastDay() > dueDays;
+            boolean isLate = number > 0 && day - lastDay() > dueDays;
+            late = isLate ? late | (1 << number) : late & ~(1 << number);
             days[number] = day;
             System.arraycopy(newActs, 0, acts[number], 0, FACTS);
             number++;
@@ -946,8 +947,8 @@ public final class PleaPapers {
 
         private void copyFrom(Papers from) {
             number = from.number;
+            late = from.late;
             System.arraycopy(from.days, 0, days, 0, PAPERS);
-            System.arraycopy(from.late, 0, late, 0, PAPERS);
             for (int p = 0; p < PAPERS; p++) {
                 System.arraycopy(from.acts[p], 0, acts[p], 0, FACTS);
             }
@@ -1010,6 +1011,9 @@ public final class PleaPapers {
 
     /** All that images keep. How facts stand is not here: it follows from the papers. */
     private static final class Suit {
+        /** What is left over by 2 to the 31. */
+        private static final long SEED_BITS = 0x7FFFFFFFL;
+
         private final Claims claims = new Claims();
         private final Papers papers = new Papers();
         private final Proofs proofs = new Proofs();
@@ -1017,7 +1021,7 @@ public final class PleaPapers {
         private int seedNumber;
 
         private int draw(int n) {
-            seedNumber = (int) ((seedNumber * 1103515245L + 12345L) & Integer.MAX_VALUE);
+            seedNumber = (int) ((seedNumber * 1103515245L + 12345L) & SEED_BITS);
             return n < 1 ? 0 : seedNumber / 65536 % n;
         }
 
@@ -1048,7 +1052,7 @@ public final class PleaPapers {
                 free(f);
             }
             for (int p = 0; p < papers.number && p < PAPERS; p++) {
-                if (!papers.late[p] && p != lateToo) {
+                if (!has(papers.late, p) && p != lateToo) {
                     hear(papers.acts[p], p);
                 }
                 silent[p] = admitSilently(p);

@@ -1,3 +1,5 @@
+import com.sun.management.ThreadMXBean;
+import java.lang.management.ManagementFactory;
 import java.lang.reflect.Constructor;
 import java.lang.reflect.Field;
 import java.lang.reflect.Method;
@@ -20,12 +22,17 @@ public final class LanguageTest {
         "keep(int)int", "goBack(int)int");
     private static final String WORDS = "throw|throws|try|catch|finally|synchronized|assert|volatile|transient|native"
         + "|import|package|strictfp|var|yield|Object|System\\.(?!arraycopy)|Thread|Random|Exception|Error";
+    private static final Set<String> TYPES = Set.of("String", "StringBuilder", "Integer", "Long", "Math", "List",
+        "ArrayList", "Iterator", "Iterable", "Comparable", "System", "Arrays");
+    private static final String LISTED = "(Integer|Long|Math)\\.(?!\\w*Exact\\()[a-z]\\w*\\("
+        + "|System\\.arraycopy\\(|Arrays\\.(copyOf|copyOfRange|fill)\\(|List\\.of\\(";
     private static int wrong = 0;
 
     public static void main(String[] args) throws Exception {
         face();
         insides();
         source();
+        callsMakeNothing();
         System.out.println(wrong == 0 ? "the language is kept" : wrong + " rules are broken");
         if (wrong != 0) System.exit(1);
     }
@@ -89,7 +96,74 @@ public final class LanguageTest {
         Matcher word = Pattern.compile("\\b(" + WORDS + ")|->|::|@").matcher(bare);
         while (word.find()) is(false, "6: " + word.group());
         is(!Pattern.compile("\\b(while|for) *\\( *(true|;;)").matcher(bare).find(), "9: a loop without an end");
+        library(bare);
         methodsAreShort(text);
+    }
+
+    /** Only what LANGUAGE.md lists; and arrays of numbers alone are copied. */
+    private static void library(String bare) {
+        Set<String> own = new TreeSet<>(Set.of("PleaPapers"));
+        for (Class<?> inside : PleaPapers.class.getDeclaredClasses()) own.add(inside.getSimpleName());
+        Matcher type = Pattern.compile("\\b[A-Z]\\w*[a-z]\\w*\\b").matcher(bare);
+        while (type.find()) is(own.contains(type.group()) || TYPES.contains(type.group()), "3: " + type.group());
+        Matcher use = Pattern.compile("\\b(Integer|Long|Math|System|Arrays|List)\\.\\w+\\(?").matcher(bare);
+        while (use.find()) is(use.group().matches(LISTED), "4: " + use.group());
+        Matcher flags = Pattern.compile("\\bboolean\\[\\] (\\w+)").matcher(bare);
+        while (flags.find()) {
+            String copied = "arraycopy\\([^;]*\\b" + flags.group(1) + "\\b";
+            is(!Pattern.compile(copied).matcher(bare).find(), "4: a copy of " + flags.group(1));
+        }
+    }
+
+    /** The second time, because the machine makes objects of its own when code runs first. */
+    private static void callsMakeNothing() {
+        ThreadMXBean thread = (ThreadMXBean) ManagementFactory.getThreadMXBean();
+        PleaPapers x = new PleaPapers();
+        callAll(x);
+        long before = thread.getCurrentThreadAllocatedBytes();
+        long nothing = thread.getCurrentThreadAllocatedBytes() - before;
+        before = thread.getCurrentThreadAllocatedBytes();
+        callAll(x);
+        is(thread.getCurrentThreadAllocatedBytes() - before == nothing, "12: a call makes an object");
+    }
+
+    private static void callAll(PleaPapers x) {
+        x.feed(8, 0x7061792031206966L);
+        x.feed(8, 0x203020616e642031L);
+        x.claim();
+        x.feed(8, 0x73617920302c313bL);
+        x.paper(0);
+        x.feed(7, 0x64656e7920303bL);
+        x.paper(40);
+        x.feed(1, 0);
+        x.claim();
+        x.fault();
+        x.due(5);
+        for (int side = 0; side < 2; side++) x.bring(x.proof(side, side, 500, 1), side == 0);
+        for (int what = 0; what < 9; what++) {
+            x.count(what);
+            x.fact(0, what);
+            x.told(0, what);
+            x.heard(1, what);
+            x.proved(0, what);
+            x.best(what % 2, 99, what / 3);
+            x.game(what % 2, what / 3);
+        }
+        x.holds(0, x.open());
+        x.turns(0);
+        x.enough(0);
+        x.silence(0, 0);
+        x.silence(0, 1);
+        x.likely(0);
+        x.chance(0);
+        x.worth(0);
+        x.without(0);
+        x.seed(7);
+        x.trial();
+        x.keep(0);
+        x.goBack(0);
+        x.strike();
+        x.strike();
     }
 
     private static void methodsAreShort(String text) {
