@@ -13,6 +13,7 @@ public final class ModelTest {
     private final int[] weights;
     private int calls = 0;
     private int day = 0;
+    private int oneLateOf = 10;
 
     private ModelTest(int run) {
         this.run = run;
@@ -22,13 +23,13 @@ public final class ModelTest {
     }
 
     public static void main(String[] args) {
-        int runs = args.length > 0 ? Integer.parseInt(args[0]) : 300;
+        int runs = args.length > 0 ? Integer.parseInt(args[0]) : 400;
         for (int run = 0; run < runs && wrong < 20; run++) {
             ModelTest test = new ModelTest(run);
-            if (run % 3 == 0) {
-                test.playForProofs();
-            } else {
-                test.play();
+            switch (run % 4) {
+                case 0 -> test.playForProofs();
+                case 1 -> test.playForImages();
+                default -> test.play();
             }
         }
         System.out.println(wrong == 0 ? "all runs answer as the model does" : wrong + " answers are not the model's");
@@ -73,6 +74,39 @@ public final class ModelTest {
         }
     }
 
+    /** Papers, many of them late, claims and proofs in and out by images that are few papers apart. */
+    private void playForImages() {
+        int before = wrong;
+        oneLateOf = 2;
+        while (calls < CALLS && wrong == before) {
+            int i = any(2);
+            switch (any(9)) {
+                case 0 -> strikeSome(4);
+                case 1 -> check("keep(" + i + ")", x.keep(i), model.keep(i));
+                case 2, 3 -> check("goBack(" + i + ")", x.goBack(i), model.goBack(i));
+                case 4 -> tellClaim();
+                case 5 -> tellProof();
+                default -> tellPaper();
+            }
+            day = lastDay();
+            for (int p = 0; p < model.count(1); p++) check("heard(" + p + ", 1)", x.heard(p, 1), model.heard(p, 1));
+            for (int c = 0; c < model.count(0); c++) check("told(" + c + ", 0)", x.told(c, 0), model.told(c, 0));
+            int what = any(5);
+            for (int k = 0; k < model.count(2); k++) {
+                check("proved(" + k + ", " + what + ")", x.proved(k, what), model.proved(k, what));
+            }
+            askFacts();
+        }
+    }
+
+    private void strikeSome(int most) {
+        for (int k = any(most); k > 0; k--) check("strike()", x.strike(), model.strike());
+    }
+
+    private int lastDay() {
+        return model.count(1) > 0 ? model.heard(model.count(1) - 1, 0) : 0;
+    }
+
     private void askAllOfProofs() {
         for (int side = 0; side < 2; side++) {
             int m = any(3) == 0 ? 9999 : any(60);
@@ -106,7 +140,8 @@ public final class ModelTest {
         calls++;
         if (got != want) {
             wrong++;
-            System.out.println("run " + run + ", call " + calls + ": " + call + " answered " + got + ", due is " + want);
+            String place = "run " + run + ", call " + calls + ": ";
+            System.out.println(place + call + " answered " + got + ", due is " + want);
         }
     }
 
@@ -176,15 +211,15 @@ public final class ModelTest {
 
     private void tellPaper() {
         if (model.count(1) == 10 && any(10) != 0) {
-            for (int k = any(9); k > 0; k--) check("strike()", x.strike(), model.strike());
-            day = model.count(1) > 0 ? model.heard(model.count(1) - 1, 0) : 0;
+            strikeSome(9);
+            day = lastDay();
         }
-        int late = any(10) == 0 ? 15 + any(20) : any(4);
+        int late = any(oneLateOf) == 0 ? 15 + any(20) : any(4);
         int next = any(20) == 0 ? around(1000) : day + late;
         if (any(12) != 0) feed(spoil(paperText()));
         check("paper(" + next + ")", x.paper(next), model.paper(next));
         check("fault()", x.fault(), model.fault());
-        day = model.count(1) > 0 ? model.heard(model.count(1) - 1, 0) : 0;
+        day = lastDay();
     }
 
     private String paperText() {
@@ -266,11 +301,9 @@ public final class ModelTest {
             case 4 -> {
                 if (any(6) == 0) check("feed(" + n + ", 0)", x.feed(n, 0), model.feed(n, 0));
             }
-            default -> {
-                for (int k = any(4); k > 0; k--) check("strike()", x.strike(), model.strike());
-            }
+            default -> strikeSome(4);
         }
-        day = model.count(1) > 0 ? model.heard(model.count(1) - 1, 0) : 0;
+        day = lastDay();
     }
 
     private void askFacts() {
